@@ -185,6 +185,12 @@ public final class PromisesTest {
     due("idle ticks", idles(y), "7 7");
     due("use(1)", y.use(1), 0);
     due("idle ticks of the used one end at once", idles(y), "7 0");
+
+    DozingDevices chain = new DozingDevices();
+    for (int d = 0; d < 6; d++) chain.device(d == 0 ? 0 : 1 << (d - 1), 1, 1, 1);
+    due("tick(6)", chain.tick(6), 6);
+    due("use(4), ancestors of ancestors too", chain.use(4), 5);
+    due("states", states(chain), "222221");
   }
 
   private static void promise4Release() {
@@ -619,6 +625,14 @@ public final class PromisesTest {
     due("refusals(1) stay", x.refusals(1), 2);
     x.sleep();
     due("a waker stays one", x.signal(0), 1);
+
+    DozingDevices y = new DozingDevices();
+    y.device(0, 1, 1, 3);
+    y.watch(2);
+    y.tick(2);
+    due("idle(0)", y.idle(0), 2);
+    due("tick(1)", y.tick(1), 0);
+    due("idle(0), one that was ON has none either", y.idle(0), 0);
   }
 
   private static void promise11ResetOnTheWay() {
