@@ -1,12 +1,14 @@
 import java.util.Random;
 
 /**
- * Runs of 512 drawn calls, right and wrong, against a second telling of the document; after each call
- * all that can be asked is compared, so that a refused call that changes something is found too.
+ * Runs of drawn calls, right and wrong, against a second telling of the document. An object is good for
+ * 512 calls, its questions among them: so some runs ask nothing after a call and others up to eight
+ * questions, and are the shorter for it; at the end of each run all that can be asked is compared.
  */
 public final class ModelTest {
-  private static final int RUNS = 1500;
+  private static final int RUNS = 20000;
   private static final int CALLS = 512;
+  private static final int CALLS_TO_COMPARE = 69;
   private static final Checks checks = new Checks();
 
   public static void main(String[] args) {
@@ -37,12 +39,16 @@ public final class ModelTest {
     DozingDevices x = new DozingDevices();
     Model model = new Model();
     int most = 1 + random.nextInt(14);
-    for (int call = 0; call < CALLS && checks.wrong() == 0; call++) {
+    int questions = new int[] {0, 1, 3, 8}[seed % 4];
+    int made = 0;
+    for (int call = 0; made + 1 + questions + CALLS_TO_COMPARE <= CALLS && checks.wrong() == 0; call++) {
       checks.about("seed " + seed + ", call " + call);
       boolean build = call < 2 * most && model.n < most;
       oneCall(random, x, model, build ? 0 : drawKind(random));
-      compare(x, model);
+      for (int i = 0; i < questions; i++) ask(random, x, model);
+      made += 1 + questions;
     }
+    compare(x, model);
     resets += model.resets;
     sleeps += model.asleepTimes;
     if (model.n == 12) full++;
@@ -110,21 +116,42 @@ public final class ModelTest {
     }
   }
 
+  private static void ask(Random random, DozingDevices x, Model model) {
+    int which = random.nextInt(9);
+    int d = random.nextInt(14) - 1;
+    switch (which) {
+      case 0: checks.due("phase()", x.phase(), model.phase); break;
+      case 1: checks.due("due()", x.due(), model.due); break;
+      case 2: checks.due("left()", x.left(), model.left); break;
+      case 3: checks.due("named()", x.named(), model.named); break;
+      case 4: askFigure(x, model, random.nextInt(9) - 1); break;
+      default: askOf(x, model, d, which - 5); break;
+    }
+  }
+
+  private static void askFigure(DozingDevices x, Model model, int k) {
+    int[] figures = {model.time, model.kicked, model.resets, model.asleepTimes, model.upGiven, model.why, model.n};
+    checks.due("figure(" + k + ")", x.figure(k), k < 0 || k > 6 ? -2 : figures[k]);
+  }
+
+  private static void askOf(DozingDevices x, Model model, int d, int what) {
+    boolean is = model.is(d);
+    switch (what) {
+      case 0: checks.due("state(" + d + ")", x.state(d), is ? model.state[d] : -2); break;
+      case 1: checks.due("uses(" + d + ")", x.uses(d), is ? model.uses[d] : -2); break;
+      case 2: checks.due("idle(" + d + ")", x.idle(d), is ? model.idle[d] : -2); break;
+      default: checks.due("refusals(" + d + ")", x.refusals(d), is ? model.refusals[d] : -2); break;
+    }
+  }
+
   private static void compare(DozingDevices x, Model model) {
     checks.due("phase()", x.phase(), model.phase);
     checks.due("due()", x.due(), model.due);
     checks.due("left()", x.left(), model.left);
     checks.due("named()", x.named(), model.named);
-    int[] figures = {model.time, model.kicked, model.resets, model.asleepTimes, model.upGiven, model.why, model.n};
-    for (int k = -1; k <= 7; k++) {
-      checks.due("figure(" + k + ")", x.figure(k), k < 0 || k > 6 ? -2 : figures[k]);
-    }
+    for (int k = -1; k <= 7; k++) askFigure(x, model, k);
     for (int d = -1; d <= 12; d++) {
-      boolean is = d >= 0 && d < model.n;
-      checks.due("state(" + d + ")", x.state(d), is ? model.state[d] : -2);
-      checks.due("uses(" + d + ")", x.uses(d), is ? model.uses[d] : -2);
-      checks.due("idle(" + d + ")", x.idle(d), is ? model.idle[d] : -2);
-      checks.due("refusals(" + d + ")", x.refusals(d), is ? model.refusals[d] : -2);
+      for (int what = 0; what < 4; what++) askOf(x, model, d, what);
     }
   }
 

@@ -52,15 +52,11 @@ public final class PromisesTest {
   }
 
   private static String states(DozingDevices x) {
-    StringBuilder all = new StringBuilder();
-    for (int d = 0; d < x.figure(6); d++) all.append(x.state(d));
-    return all.toString();
+    return Scenes.states(x);
   }
 
   private static String idles(DozingDevices x) {
-    StringBuilder all = new StringBuilder();
-    for (int d = 0; d < x.figure(6); d++) all.append(d == 0 ? "" : " ").append(x.idle(d));
-    return all.toString();
+    return Scenes.idles(x);
   }
 
   private static String figures(DozingDevices x) {
@@ -725,16 +721,16 @@ public final class PromisesTest {
     due("uses(0)", x.uses(0), BAD);
     x.device(0, 1, 1, 1);
     x.device(1, 1, 1, 1);
-    for (int i = 1; i <= 300; i++) {
+    for (int i = 1; i <= 200; i++) {
       x.use(1);
       due("uses(1)", x.uses(1), i);
     }
     due("uses(0)", x.uses(0), 0);
     x.release(1);
-    due("uses(1)", x.uses(1), 299);
+    due("uses(1)", x.uses(1), 199);
     x.sleep();
     x.tick(5);
-    due("uses(1) while ASLEEP", x.uses(1), 299);
+    due("uses(1) while ASLEEP", x.uses(1), 199);
     due("uses(2)", x.uses(2), BAD);
     for (int d : NO_DEVICES) due("uses(" + d + ")", x.uses(d), BAD);
   }
