@@ -1,6 +1,6 @@
 /**
  * One method for each sentence of the document that names a boundary case; the text given to about()
- * is the sentence. What a refused call leaves untouched stands in RefusedCallsTest.
+ * names the sentence, in its words or near them. What a refused call leaves untouched stands in RefusedCallsTest.
  */
 public final class BoundariesTest {
   private static final int NONE = DozingDevices.NONE;
